@@ -1012,15 +1012,14 @@ public final class BellForgiven {
         }
 
         private static boolean couldBehind(Valley v, int k, int wrongs, int silent) {
-            int gone = 0;
             int sounded = 0;
             for (int w = 0; w < v.wrongs; w++) {
-                if (holds(wrongs, w) && v.could(w, gone, sounded, 0)) {
-                    gone |= 1 << w;
-                    sounded |= ~silent & 1 << w;
+                // Each has one stroke and k has none, so that only who was rung matters.
+                if (holds(wrongs, w) && !holds(silent, w) && v.could(w, 0, sounded, 0)) {
+                    sounded |= 1 << w;
                 }
             }
-            return v.could(k, gone, sounded, 0);
+            return v.could(k, 0, sounded, 0);
         }
 
         private static long ways(int wrongs, int silent, int c) {

@@ -274,6 +274,7 @@ public final class PromiseTest {
     private static void readItems() {
         Due.part("promise 7, items");
         reads("valley;", 1);
+        reads("valley;days 3;", 2);
         reads("  valley  ;  ", 1);
         reads("valley;one 0;one 5;", 3);
         reads("valley;one0;one5;wrong0 0 1 9;days99;", 5);
@@ -302,6 +303,8 @@ public final class PromiseTest {
         faultAt("  bell;", 2);
         faultAt("one 0;", 0);
         faultAt(" days 3;", 1);
+        faultAt("wrong 0 0 1 1;", 0);
+        faultAt("ring 0;", 0);
         faultAt("; valley;", 0);
         faultAt("7;", 0);
         faultAt("valley;valley;", 7);
@@ -452,6 +455,15 @@ public final class PromiseTest {
         Due.is("rings(3)", x.rings(3), 3);
         statuses(x, 6, 3, 0);
         counts(x, 2, 4, 4, 0, 0, 4, 0, 0, 0, 4);
+        x = people(PLAIN, HARD);
+        x.wrong(APPLE, 0, 1, 2);
+        x.days(2);
+        Due.is("rings(0): tomorrow it could be", x.rings(0), NO);
+        Due.is("peal(): tomorrow it could be", x.peal(), 0);
+        Due.is("few(0, -1): tomorrow it could be", x.few(0, -1), -6);
+        Due.is("hush(0): not in the peal, though tomorrow", x.hush(0), 0);
+        x.days(1);
+        Due.is("rings(0)", x.rings(0), 1);
     }
 
     private static void undo() {
@@ -1090,8 +1102,15 @@ public final class PromiseTest {
         x.wrong(PLAIN, 0, 1, 1);
         x.rings(0);
         Due.is("first(0, 1): both, 3 are let off now", x.first(0, 1), 0b1000);
+        Due.is("first(1, 0): both", x.first(1, 0), 0b1000);
         x.undo();
         Due.is("first(0, 1)", x.first(0, 1), 0b0100);
+        x = people(EASTER, PLAIN);
+        Due.is("first(0, 1): a lets off 30 at Easter", x.first(0, 1), 0b0010);
+        Due.is("first(1, 0)", x.first(1, 0), 0b0100);
+        x.days(29);
+        Due.is("first(0, 1): not now, though tomorrow", x.first(0, 1), 0b0001);
+        Due.is("first(1, 0): not now, though tomorrow", x.first(1, 0), 0b0001);
     }
 
     private static void rust() {
@@ -1157,6 +1176,7 @@ public final class PromiseTest {
         Due.is("easters(1, 61)", x.easters(1, 61), BAD);
         statuses(x, 12, 0, 0);
         Due.is("easters(999999, 60)", x.easters(999999, 60), 0);
+        Due.is("easters(0, 0)", x.easters(0, 0), 0);
         for (int k = 0; k < 4; k++) {
             x.wrong(PLAIN, 0, 1, 1);
         }
