@@ -494,10 +494,10 @@ public final class BellForgiven {
         final int[] nature = new int[MOST_PEOPLE];
         final int[] rung = new int[MOST_PEOPLE];
         int wrongs;
-        private final int[] kind = new int[MOST_WRONGS];
-        private final int[] by = new int[MOST_WRONGS];
-        private final int[] to = new int[MOST_WRONGS];
-        private final int[] gravity = new int[MOST_WRONGS];
+        final int[] kind = new int[MOST_WRONGS];
+        final int[] by = new int[MOST_WRONGS];
+        final int[] to = new int[MOST_WRONGS];
+        final int[] gravity = new int[MOST_WRONGS];
         final int[] age = new int[MOST_WRONGS];
         int letOff;
         int day;
