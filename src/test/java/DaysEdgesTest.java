@@ -412,6 +412,43 @@ public final class DaysEdgesTest extends Edges {
         due(x.about(0, 4), 0);
     }
 
+    static void promise10_agesOfAllEightAreAsAheadOfIt() {
+        BellForgiven x = people(HARD, HARD);
+        for (int k = 0; k < 8; k++) {
+            x.wrong(PLAIN, k % 2, 1 - k % 2, 9);
+            x.days(k + 1);
+        }
+        x.days(3);
+        x.days(60);
+        x.undo();
+        for (int k = 0; k < 8; k++) {
+            due(x.about(k, 4), 36 - k * (k + 1) / 2 + 3);
+        }
+        x.undo();
+        x.undo();
+        for (int k = 0; k < 8; k++) {
+            due(x.about(k, 4), 28 - k * (k + 1) / 2);
+        }
+    }
+
+    static void promise10_rungOfAllSixIsAsAheadOfIt() {
+        BellForgiven x = people(OLD, OLD, OLD, OLD, OLD, OLD);
+        for (int k = 0; k < 8; k++) {
+            x.wrong(PLAIN, k % 6, (k + 1) % 6, 1);
+        }
+        for (int k = 0; k < 8; k++) {
+            x.rings(k);
+        }
+        for (int k = 7; k >= 0; k--) {
+            for (int i = 0; i < 6; i++) {
+                due(x.of(i, 1), (i <= k ? 1 : 0) + (i + 6 <= k ? 1 : 0));
+            }
+            due(x.count(5), k + 1);
+            x.undo();
+        }
+        due(x.count(5), 0);
+    }
+
     static void promise10_whatIsLetOffIsAsAheadOfIt() {
         BellForgiven x = people(PLAIN, MILD);
         x.wrong(PLAIN, 0, 1, 1);

@@ -904,13 +904,14 @@ public final class GuessEdgesTest extends Edges {
 
     static void promise29_whatOneLetsOffNow() {
         BellForgiven x = people(EASTER, OLD);
+        int[] days = {29, 1, 1};
         due(x.first(0, 1), 1 << 3);
-        x.days(29);
-        due(x.first(0, 1), 1 << 2);
-        x.days(1);
-        due(x.first(0, 1), 1 << 3);
-        x.days(1);
-        due(x.first(0, 1), 1 << 2);
+        due(x.first(1, 0), 1 << 3);
+        for (int n : days) {
+            boolean isEaster = x.days(n) == 30;
+            due(x.first(0, 1), isEaster ? 1 << 3 : 1 << 2);
+            due(x.first(1, 0), isEaster ? 1 << 3 : 1 << 1);
+        }
     }
 
     static void promise29_changesNothing() {
@@ -1072,6 +1073,24 @@ public final class GuessEdgesTest extends Edges {
         rusts(x, 0, 2, 3, 0, 1);
         x.days(1);
         rusts(x, 0, 2, 3, 1, 1);
+    }
+
+    static void promise30_theStrokesAreTodayNotTomorrow() {
+        BellForgiven x = people(PLAIN, EASTER, PLAIN);
+        x.wrong(PLAIN, 2, 0, 3);
+        x.wrong(PLAIN, 0, 1, 9);
+        x.wrong(APPLE, 0, 2, 3);
+        rusts(x, 0, 2, 3, 7, 10);
+        rusts(x, 0, 4, 3, 0, 1);
+        x.days(2);
+        rusts(x, 0, 2, 3, 0, 1);
+        rusts(x, 0, 4, 3, 0, 1);
+        x.days(1);
+        rusts(x, 0, 4, 3, 7, 10);
+        x.days(26);
+        rusts(x, 0, 2, 3, 0, 1);
+        x.days(1);
+        rusts(x, 0, 2, 3, 7, 10);
     }
 
     static void promise30_theFractionStaysWhenRefused() {

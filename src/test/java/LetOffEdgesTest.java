@@ -424,6 +424,28 @@ public final class LetOffEdgesTest extends Edges {
         due(x.few(0, NONE), 1);
     }
 
+    static void promise16_theRowsStrokesAreToday() {
+        BellForgiven x = people(PLAIN, PLAIN, PLAIN);
+        // For 0 one stroke by 0 is needed: 1 can from day 3 on, 2 till day 4, 3 always.
+        x.wrong(PLAIN, 1, 0, 3);
+        x.wrong(APPLE, 0, 2, 3);
+        x.wrong(OATH, 0, 1, 2);
+        x.wrong(PLAIN, 0, 1, 2);
+        due(x.few(0, 0), 2);
+        x.days(2);
+        due(x.few(0, 0), 2);
+        x.days(1);
+        due(x.few(0, 0), 1);
+        BellForgiven y = people(PLAIN, PLAIN);
+        y.wrong(PLAIN, 1, 0, 3);
+        y.wrong(OATH, 0, 1, 2);
+        y.wrong(PLAIN, 0, 1, 2);
+        y.days(4);
+        due(y.few(0, 0), 1);
+        y.days(1);
+        due(y.few(0, 0), 2);
+    }
+
     static void promise16_aNumberOfAWrongNotOfItsPlace() {
         BellForgiven x = helped(3, 7);
         for (int k = 1; k < 7; k++) {
@@ -471,6 +493,18 @@ public final class LetOffEdgesTest extends Edges {
         due(x.hush(0), 0);
         due(alone(0, PLAIN, 9, HARD).hush(0), 0);
         statuses(x, 0, 0, 0);
+    }
+
+    static void promise17_nowNotTomorrow() {
+        BellForgiven x = alone(0, APPLE, 2, HARD);
+        x.days(2);
+        due(x.hush(0), 0);
+        x.days(1);
+        due(x.hush(0), NONE);
+        x = alone(30, PLAIN, 9, EASTER);
+        due(x.hush(0), NONE);
+        x.days(1);
+        due(x.hush(0), 0);
     }
 
     static void promise17_0IfItIsLetOffAlready() {

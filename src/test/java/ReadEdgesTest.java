@@ -70,6 +70,35 @@ public final class ReadEdgesTest extends Edges {
         read("valley;" + items(19, "days 1;") + "days   99;", 21);
     }
 
+    static void promise07_whateverThe150thByteIs() {
+        String most = "valley;" + items(23, "days1;");
+        fault(most + "days1", 150);
+        fault(most + "days ", 150);
+        fault(most + "days0", 149);
+        fault(most + "dayss", 145);
+        fault(most + " days", 150);
+        fault(most + " dayz", 146);
+        read(most + "     ", 24);
+        fault(most + "    ;", 149);
+        fault(most + "    9", 149);
+    }
+
+    static void promise07_nothingIsReadBehindTheTextsEnd() {
+        BellForgiven x = new BellForgiven();
+        for (String cut : new String[] {"valley;days 9", "valley;days", "valley;one ", "valley;", "val"}) {
+            write(x, "valley;days 99;days 9;   ");
+            write(x, cut);
+            int fault = cut.equals("val") ? 0 : cut.length();
+            due(x.read(), cut.endsWith(";") ? 1 : -10 - fault);
+        }
+        write(x, "valley;days 9       ");
+        write(x, "valley;days ");
+        due(x.read(), -22);
+        write(x, "valley;dayss");
+        write(x, "valley;days");
+        due(x.read(), -21);
+    }
+
     // ---- blanks
 
     static void promise07_blanksAheadOfTheFirst() {
@@ -156,6 +185,21 @@ public final class ReadEdgesTest extends Edges {
         fault(TWO + "wrongs 0 0 1 5;", 19);
         fault(TWO + "wrong 0 0 1 5;rings 0;", 33);
         fault("valley;dayss 1;", 7);
+    }
+
+    static void promise07_aWordWithOneLetterUnlikeIsNone() {
+        String good = TWO + "wrong 0 0 1 5;";
+        for (String word : new String[] {"valley", "one", "wrong", "ring", "days"}) {
+            for (int n = 0; n < word.length(); n++) {
+                for (char c : new char[] {'a', 'q', 'z'}) {
+                    String other = word.substring(0, n) + c + word.substring(n + 1);
+                    if (!other.equals(word)) {
+                        read(good + other + " 1;", -10 - good.length());
+                        read(other + ";", -10);
+                    }
+                }
+            }
+        }
     }
 
     static void promise07_capitalsAreNoLetters() {
@@ -397,6 +441,11 @@ public final class ReadEdgesTest extends Edges {
         due(x.of(1, 1), 1);
         due(x.count(2), 2);
         faultBehind(TWO + "wrong 0 1 0 4;wrong 0 0 1 5;ring 1;ring ", "0;");
+    }
+
+    static void promise07_aRingIsAsIfTheOthersHadNotBeen() {
+        faultBehind(TWO + "wrong 0 0 1 5;wrong 0 1 0 3;ring ", "1;");
+        faultBehind(TWO + "wrong 0 1 0 1;wrong 0 0 1 6;ring ", "1;");
     }
 
     static void promise07_aRingIsOnTheDayWhereItStands() {
