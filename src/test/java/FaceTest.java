@@ -90,6 +90,10 @@ public final class FaceTest {
     private static void nested() {
         Class<?>[] inside = BellForgiven.class.getDeclaredClasses();
         Due.holds("some twelve classes at most", inside.length <= 14);
+        Set<String> names = new HashSet<>();
+        for (Method m : BellForgiven.class.getMethods()) {
+            names.add(m.getName());
+        }
         for (Class<?> c : inside) {
             Due.holds(c + " is static and not public", Modifier.isStatic(c.getModifiers())
                     && !Modifier.isPublic(c.getModifiers()));
@@ -103,6 +107,8 @@ public final class FaceTest {
             Due.holds(c + " has some twenty fields at most", fields <= 22);
             for (Method m : c.getDeclaredMethods()) {
                 Due.holds(m + " has seven parameters at most", m.getParameterCount() <= 7);
+                Due.holds(m + " bears a name of its own", !Modifier.isPrivate(m.getModifiers())
+                        || !names.contains(m.getName()));
             }
         }
     }
